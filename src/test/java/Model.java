@@ -23,6 +23,8 @@ final class Model {
     private int[] pieceDuals = new int[10];
     private int[] orderDuals = new int[10];
 
+    private final boolean[][] mayNow = new boolean[10][10];
+    private final int[][] netNow = new int[10][10];
     private int triedSum;
     private int triedPairs;
     private int[] triedBest;
@@ -123,13 +125,22 @@ final class Model {
             for (int k = 0; k < piece; k++) {
                 taken |= given[k] == order;
             }
-            if (!taken && may(piece, order)) {
+            if (!taken && mayNow[piece][order]) {
                 given[piece] = order;
-                tryFrom(piece + 1, given, sum + net(piece, order), pairs + 1, without);
+                tryFrom(piece + 1, given, sum + netNow[piece][order], pairs + 1, without);
             }
         }
         given[piece] = -1;
         tryFrom(piece + 1, given, sum, pairs, without);
+    }
+
+    private void lookAtPairs() {
+        for (int piece = 0; piece < pieces.size(); piece++) {
+            for (int order = 0; order < orders.size(); order++) {
+                mayNow[piece][order] = may(piece, order);
+                netNow[piece][order] = fits(piece, order) ? net(piece, order) : 0;
+            }
+        }
     }
 
     private void tryAll(int without) {
@@ -141,6 +152,7 @@ final class Model {
         pieceDuals = new int[10];
         orderDuals = new int[10];
         int[] withoutSum = new int[10];
+        lookAtPairs();
         for (int order = 0; order < orders.size(); order++) {
             tryAll(order);
             withoutSum[order] = triedSum;

@@ -6,8 +6,12 @@ public final class ModelTest {
     private static final int CALLS = 200;
     private static final int[] ODD = {Integer.MIN_VALUE, -1, 10, 1000, 1001, 9999, 10_000, 1_000_001, Integer.MAX_VALUE};
 
+    /** The most pieces and orders of a run: few enough for a model that tries everything. */
+    private static final int[][] SHAPES = {{6, 6}, {3, 10}, {10, 3}, {4, 7}, {7, 4}, {2, 2}, {1, 10}};
+
     private long seed;
-    private final int boards;
+    private final int mostPieces;
+    private final int mostOrders;
     private final int sizes;
     private final int cents;
     private final int days;
@@ -16,7 +20,8 @@ public final class ModelTest {
 
     private ModelTest(int run) {
         seed = run * 7919L + 17;
-        boards = 1 + run % 6;
+        mostPieces = SHAPES[run % SHAPES.length][0];
+        mostOrders = SHAPES[run % SHAPES.length][1];
         sizes = 1 + run % 4 * 2;
         cents = new int[] {1, 2, 4, 30, 1_000_001}[run % 5];
         days = new int[] {1, 3, 40}[run % 3];
@@ -30,14 +35,19 @@ public final class ModelTest {
     }
 
     private void calls(int run) {
+        boolean isFilledFirst = run % 4 != 0;
+        for (int k = 0; isFilledFirst && k < 20; k++) {
+            board("run " + run + ", filling", k % 2 == 0);
+        }
+        tellAll("run " + run + ", filling");
         for (int k = 0; k < CALLS; k++) {
-            int a = number();
-            int b = number();
+            int a = number(mostPieces);
+            int b = number(mostOrders);
             int kind = next(40);
             String what = "run " + run + ", call " + k + ", kind " + kind + " (" + a + ", " + b + ")";
             one(what, kind, a, b);
         }
-        for (int p = -1; p <= boards; p++) {
+        for (int p = -1; p <= 10; p++) {
             look("run " + run + ", at its end, " + p, p);
         }
     }
@@ -46,13 +56,11 @@ public final class ModelTest {
         switch (kind) {
             case 0, 1, 2 -> board(what, true);
             case 3, 4, 5 -> board(what, false);
-            case 6, 7, 8, 9, 10, 11, 12 -> {
-                int c = odd(next(cents));
-                same(what, () -> none(() -> match.worth(a, b, c)), () -> none(() -> model.worth(a, b, c)));
-            }
-            case 13 -> {
+            case 6, 7, 8, 9, 10 -> tell(what, a, b, odd(next(cents)));
+            case 11 -> tellAll(what);
+            case 12, 13 -> {
                 int c = odd(next(3));
-                int d = odd(next(3));
+                int d = next(3) == 0 ? odd(next(3)) : 0;
                 int e = odd(next(2 * days));
                 same(what, () -> none(() -> match.rules(c, d, e)), () -> none(() -> model.rules(c, d, e)));
             }
@@ -65,25 +73,52 @@ public final class ModelTest {
                 int day = odd(model.today() - 1 + next(2 * days + 2));
                 same(what, () -> none(() -> match.reserve(a, b, day)), () -> none(() -> model.reserve(a, b, day)));
             }
-            case 27, 28, 29, 30 -> same(what, () -> none(() -> match.undo(a)), () -> none(() -> model.undo(a)));
+            case 27, 28, 29 -> same(what, () -> none(() -> match.undo(a)), () -> none(() -> model.undo(a)));
+            case 30 -> undoAll(what);
             case 31, 32 -> {
                 int c = odd(1 + next(days));
                 same(what, () -> match.tick(c), () -> model.tick(c));
             }
-            default -> look(what, a);
+            default -> {
+                look(what, a);
+                look(what, b);
+            }
+        }
+    }
+
+    private void tell(String what, int piece, int order, int worth) {
+        same(what, () -> none(() -> match.worth(piece, order, worth)), () -> none(() -> model.worth(piece, order, worth)));
+    }
+
+    private void tellAll(String what) {
+        for (int piece = 0; piece < model.pieceCount(); piece++) {
+            for (int order = 0; order < model.orderCount(); order++) {
+                tell(what, piece, order, next(cents));
+            }
+        }
+    }
+
+    private void undoAll(String what) {
+        for (int k = 0; k < model.pieceCount(); k++) {
+            int piece = k;
+            same(what, () -> none(() -> match.undo(piece)), () -> none(() -> model.undo(piece)));
         }
     }
 
     private void board(String what, boolean isPiece) {
         int thick = odd(1 + next(8) / 7);
-        int wide = odd(1 + next(sizes));
-        int length = odd(1 + next(sizes * (isPiece ? 2 : 1)));
+        int wide = odd(1 + next(sizes) + (isPiece ? next(sizes) : 0));
+        int length = odd(1 + next(sizes) * (isPiece ? 3 : 1));
         int grade = odd(next(8) / 7);
-        if (isPiece && (model.pieceCount() < boards || next(20) == 0 && model.pieceCount() < 6)) {
+        if (isPiece && hasRoom(model.pieceCount(), mostPieces)) {
             same(what, () -> match.piece(thick, wide, length, grade), () -> model.piece(thick, wide, length, grade));
-        } else if (!isPiece && (model.orderCount() < boards || next(20) == 0 && model.orderCount() < 6)) {
+        } else if (!isPiece && hasRoom(model.orderCount(), mostOrders)) {
             same(what, () -> match.order(thick, wide, length, grade), () -> model.order(thick, wide, length, grade));
         }
+    }
+
+    private static boolean hasRoom(int count, int most) {
+        return count < most || count == 10;
     }
 
     private void look(String what, int k) {
@@ -119,8 +154,8 @@ public final class ModelTest {
         return 0;
     }
 
-    private int number() {
-        return next(25) == 0 ? ODD[next(ODD.length)] : next(boards + (next(10) == 0 ? 1 : 0));
+    private int number(int most) {
+        return next(25) == 0 ? ODD[next(ODD.length)] : next(most + (next(10) == 0 ? 1 : 0));
     }
 
     private int odd(int usual) {

@@ -40,6 +40,10 @@ public final class Promise11SeveralTest {
         match.worth(0, 3, 2);
         Check.is("two", match.several(0), 2);
         Check.used("greatest", match, 0, 1, 3);
+        SurplusMatch crossed = ofLengths(10, 7, 5, 5, 3);
+        crossed.worth(0, 0, 1);
+        Check.is("two", crossed.several(0), 2);
+        Check.used("the sum is ahead of the bits", crossed, 0, 0, 3);
     }
 
     private static void takesTheLowestBits() {
