@@ -2,8 +2,20 @@
 final class Check {
     private static int made = 0;
     private static int wrong = 0;
+    private static String sentence = "";
 
     private Check() {
+    }
+
+    /** The test of one sentence of the document: what is wrong in it is told with the sentence. */
+    static void sentence(String words, Runnable test) {
+        int madeAhead = made;
+        sentence = "[" + words + "] ";
+        test.run();
+        if (made == madeAhead) {
+            tell("the test", "no check", "one at least");
+        }
+        sentence = "";
     }
 
     static void is(String what, long got, long due) {
@@ -15,6 +27,13 @@ final class Check {
 
     static void is(String what, boolean got, boolean due) {
         is(what, got ? 1 : 0, due ? 1 : 0);
+    }
+
+    static void is(String what, String got, String due) {
+        made++;
+        if (!got.equals(due)) {
+            tell(what, got, due);
+        }
     }
 
     static void refused(String what, Class<?> due, Runnable call) {
@@ -84,7 +103,7 @@ final class Check {
     private static void tell(String what, String got, String due) {
         wrong++;
         if (wrong <= 50) {
-            System.out.println(what + ": got " + got + ", due is " + due);
+            System.out.println(sentence + what + ": got " + got + ", due is " + due);
         }
     }
 }

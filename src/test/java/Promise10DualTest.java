@@ -112,18 +112,24 @@ public final class Promise10DualTest {
         int sum = 0;
         int count = 0;
         long all = 0;
+        int[] ofPiece = new int[10];
+        int[] ofOrder = new int[10];
+        for (int k = 0; k < 10; k++) {
+            ofPiece[k] = match.dual(0, k);
+            ofOrder[k] = match.dual(1, k);
+        }
         for (int piece = 0; piece < 10; piece++) {
             int order = match.orderOf(piece, 0);
-            all += match.dual(0, piece) + match.dual(1, piece);
+            all += ofPiece[piece] + ofOrder[piece];
             if (order >= 0) {
                 count++;
                 sum += worth[piece][order];
                 Check.is("it may be", may[piece][order], true);
-                Check.is("tight", match.dual(0, piece) + match.dual(1, order), worth[piece][order]);
+                Check.is("tight", ofPiece[piece] + ofOrder[order], worth[piece][order]);
             }
             for (int k = 0; k < 10; k++) {
                 if (may[piece][k]) {
-                    Check.is("reached", match.dual(0, piece) + match.dual(1, k) >= worth[piece][k], true);
+                    Check.is("reached", ofPiece[piece] + ofOrder[k] >= worth[piece][k], true);
                 }
             }
         }
