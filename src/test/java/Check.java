@@ -77,6 +77,16 @@ final class Check {
         return match;
     }
 
+    /** One piece, and orders of these lengths, that it fits but for the longer ones. */
+    static SurplusMatch ofLengths(int piece, int... orders) {
+        SurplusMatch match = new SurplusMatch();
+        match.piece(1, 5, piece, 0);
+        for (int length : orders) {
+            match.order(1, 5, length, 0);
+        }
+        return match;
+    }
+
     static void worths(SurplusMatch match, int[][] cents) {
         for (int piece = 0; piece < cents.length; piece++) {
             for (int order = 0; order < cents[piece].length; order++) {
@@ -91,6 +101,14 @@ final class Check {
             is(what + ": orderOf(" + piece + ", " + i + ")", match.orderOf(piece, i), orders[i]);
         }
         is(what + ": no more of " + piece, match.orderOf(piece, orders.length), -1);
+    }
+
+    /** Checks which pieces are for sale, in this order, and that there are no more. */
+    static void forSale(String what, SurplusMatch match, int... pieces) {
+        for (int i = 0; i < pieces.length; i++) {
+            is(what + ": sale(" + i + ")", match.sale(i), pieces[i]);
+        }
+        is(what + ": no more for sale", match.sale(pieces.length), -1);
     }
 
     static void end() {

@@ -104,36 +104,27 @@ public final class EdgeDoingTest {
         Check.noTurn("still no run", () -> each.dual(0, 0));
     }
 
-    private static SurplusMatch ofLengths(int piece, int... orders) {
-        SurplusMatch match = new SurplusMatch();
-        match.piece(1, 5, piece, 0);
-        for (int length : orders) {
-            match.order(1, 5, length, 0);
-        }
-        return match;
-    }
-
     private static void lengthsJustGo() {
-        SurplusMatch just = ofLengths(1000, 200, 200, 200, 200, 200);
+        SurplusMatch just = Check.ofLengths(1000, 200, 200, 200, 200, 200);
         Check.is("1,000 of 1,000", just.several(0), 5);
-        SurplusMatch above = ofLengths(1000, 200, 200, 200, 200, 201);
+        SurplusMatch above = Check.ofLengths(1000, 200, 200, 200, 200, 201);
         Check.is("1,001 of 1,000", above.several(0), 4);
         Check.used("the four", above, 0, 0, 1, 2, 3);
-        SurplusMatch below = ofLengths(999, 200, 200, 200, 200, 200);
+        SurplusMatch below = Check.ofLengths(999, 200, 200, 200, 200, 200);
         Check.is("1,000 of 999", below.several(0), 4);
-        SurplusMatch one = ofLengths(1000, 1000, 1000);
+        SurplusMatch one = Check.ofLengths(1000, 1000, 1000);
         Check.is("one of its own length", one.several(0), 1);
         Check.used("the lower", one, 0, 0);
-        SurplusMatch least = ofLengths(1, 1, 1);
+        SurplusMatch least = Check.ofLengths(1, 1, 1);
         Check.is("the least piece", least.several(0), 1);
-        SurplusMatch whole = ofLengths(7, 3, 4, 5, 2, 7);
+        SurplusMatch whole = Check.ofLengths(7, 3, 4, 5, 2, 7);
         Check.is("3 and 4 are 7", whole.several(0), 2);
         Check.used("3 and 4", whole, 0, 0, 1);
     }
 
     private static void fiveAtMost() {
         for (int count = 0; count <= 10; count++) {
-            SurplusMatch match = ofLengths(1000);
+            SurplusMatch match = Check.ofLengths(1000);
             for (int k = 0; k < count; k++) {
                 match.order(1, 5, 1, 0);
             }
@@ -144,7 +135,7 @@ public final class EdgeDoingTest {
             }
             Check.is("no more", match.orderOf(0, due), -1);
         }
-        SurplusMatch best = ofLengths(1000, 1, 1, 1, 1, 1, 1, 1, 1, 1, 1);
+        SurplusMatch best = Check.ofLengths(1000, 1, 1, 1, 1, 1, 1, 1, 1, 1, 1);
         for (int order = 0; order < 10; order++) {
             best.worth(0, order, order);
         }
@@ -153,20 +144,20 @@ public final class EdgeDoingTest {
     }
 
     private static void countAheadOfSum() {
-        SurplusMatch match = ofLengths(10, 10, 5, 5);
+        SurplusMatch match = Check.ofLengths(10, 10, 5, 5);
         match.worth(0, 0, 1_000_000);
         Check.is("two of nothing ahead of one of a million", match.several(0), 2);
         Check.used("two", match, 0, 1, 2);
     }
 
     private static void severalByOneCent() {
-        SurplusMatch match = ofLengths(10, 5, 5, 5);
+        SurplusMatch match = Check.ofLengths(10, 5, 5, 5);
         match.worth(0, 0, 1_000_000);
         match.worth(0, 1, 999_999);
         match.worth(0, 2, 1_000_000);
         Check.is("two", match.several(0), 2);
         Check.used("by one cent", match, 0, 0, 2);
-        SurplusMatch cut = ofLengths(10, 10, 9);
+        SurplusMatch cut = Check.ofLengths(10, 10, 9);
         cut.worth(0, 0, 5);
         cut.worth(0, 1, 6);
         cut.rules(2, 0, 100);
@@ -175,13 +166,13 @@ public final class EdgeDoingTest {
     }
 
     private static void lowestBits() {
-        SurplusMatch match = ofLengths(10, 5, 5, 5, 5);
+        SurplusMatch match = Check.ofLengths(10, 5, 5, 5, 5);
         Check.is("two", match.several(0), 2);
         Check.used("bits 0011", match, 0, 0, 1);
-        SurplusMatch crossed = ofLengths(10, 8, 5, 5, 2);
+        SurplusMatch crossed = Check.ofLengths(10, 8, 5, 5, 2);
         Check.is("two", crossed.several(0), 2);
         Check.used("bits 0110 ahead of 1001", crossed, 0, 1, 2);
-        SurplusMatch worths = ofLengths(10, 5, 5, 5, 5);
+        SurplusMatch worths = Check.ofLengths(10, 5, 5, 5, 5);
         worths.worth(0, 1, 3);
         worths.worth(0, 2, 3);
         worths.worth(0, 3, 3);
@@ -190,7 +181,7 @@ public final class EdgeDoingTest {
     }
 
     private static void openOrders() {
-        SurplusMatch match = ofLengths(4, 1, 1, 1, 1);
+        SurplusMatch match = Check.ofLengths(4, 1, 1, 1, 1);
         match.piece(1, 5, 1, 0);
         match.piece(1, 5, 1, 0);
         match.reserve(1, 0, 0);
@@ -207,7 +198,7 @@ public final class EdgeDoingTest {
     }
 
     private static void severalIsDone() {
-        SurplusMatch match = ofLengths(4, 2, 2, 2);
+        SurplusMatch match = Check.ofLengths(4, 2, 2, 2);
         match.piece(1, 5, 4, 0);
         match.rules(0, 0, 0);
         Check.is("two", match.several(0), 2);
@@ -299,7 +290,7 @@ public final class EdgeDoingTest {
     }
 
     private static void undoFreesAll() {
-        SurplusMatch match = ofLengths(5, 1, 1, 1, 1, 1);
+        SurplusMatch match = Check.ofLengths(5, 1, 1, 1, 1, 1);
         match.piece(1, 5, 5, 0);
         match.rules(0, 0, 0);
         Check.is("five", match.several(0), 5);
@@ -348,22 +339,22 @@ public final class EdgeDoingTest {
         SurplusMatch match = Check.alike(3, 1);
         match.rules(0, 0, 0);
         match.several(1);
-        listed("several", match, 0, 2);
+        Check.forSale("several", match, 0, 2);
         match.undo(1);
-        listed("undo", match, 0, 1, 2);
+        Check.forSale("undo", match, 0, 1, 2);
         match.run();
-        listed("run", match, 1, 2);
+        Check.forSale("run", match, 1, 2);
     }
 
     private static void saleNotReserved() {
         SurplusMatch match = Check.alike(3, 1);
         match.rules(0, 0, 0);
         match.reserve(1, 0, 1);
-        listed("reserved", match, 0, 2);
+        Check.forSale("reserved", match, 0, 2);
         match.tick(1);
-        listed("on its day", match, 0, 2);
+        Check.forSale("on its day", match, 0, 2);
         match.tick(1);
-        listed("behind it", match, 0, 1, 2);
+        Check.forSale("behind it", match, 0, 1, 2);
     }
 
     private static void saleByAge() {
@@ -376,10 +367,10 @@ public final class EdgeDoingTest {
         int[][] due = {{0, 1, 2}, {0, 1}, {0}, {}};
         for (int age = 0; age <= 3; age++) {
             match.rules(0, 0, age);
-            listed("from " + age + " days on", match, due[age]);
+            Check.forSale("from " + age + " days on", match, due[age]);
         }
         match.rules(0, 0, 9999);
-        listed("from 9,999 days on", match);
+        Check.forSale("from 9,999 days on", match);
     }
 
     private static void saleInOrder() {
@@ -391,19 +382,12 @@ public final class EdgeDoingTest {
                 match.tick(1);
             }
         }
-        listed("all ten", match, 0, 1, 2, 3, 4, 5, 6, 7, 8, 9);
+        Check.forSale("all ten", match, 0, 1, 2, 3, 4, 5, 6, 7, 8, 9);
         match.order(1, 1, 1, 0);
         match.worth(4, 0, 1);
         match.run();
-        listed("without the used one", match, 0, 1, 2, 3, 5, 6, 7, 8, 9);
+        Check.forSale("without the used one", match, 0, 1, 2, 3, 5, 6, 7, 8, 9);
         match.undo(4);
-        listed("back in its place", match, 0, 1, 2, 3, 4, 5, 6, 7, 8, 9);
-    }
-
-    private static void listed(String what, SurplusMatch match, int... pieces) {
-        for (int i = 0; i < pieces.length; i++) {
-            Check.is(what + ", place " + i, match.sale(i), pieces[i]);
-        }
-        Check.is(what + ", no more", match.sale(pieces.length), -1);
+        Check.forSale("back in its place", match, 0, 1, 2, 3, 4, 5, 6, 7, 8, 9);
     }
 }

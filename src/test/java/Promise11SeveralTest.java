@@ -13,54 +13,45 @@ public final class Promise11SeveralTest {
         Check.end();
     }
 
-    private static SurplusMatch ofLengths(int piece, int... orders) {
-        SurplusMatch match = new SurplusMatch();
-        match.piece(1, 5, piece, 0);
-        for (int length : orders) {
-            match.order(1, 5, length, 0);
-        }
-        return match;
-    }
-
     private static void takesTheMostOrders() {
-        SurplusMatch match = ofLengths(10, 10, 4, 6);
+        SurplusMatch match = Check.ofLengths(10, 10, 4, 6);
         match.worth(0, 0, 1000);
         Check.is("two, just its length", match.several(0), 2);
         Check.used("most", match, 0, 1, 2);
-        SurplusMatch longer = ofLengths(10, 10, 4, 7);
+        SurplusMatch longer = Check.ofLengths(10, 10, 4, 7);
         longer.worth(0, 0, 1000);
         Check.is("one: 4 and 7 are too long", longer.several(0), 1);
         Check.used("one", longer, 0, 0);
     }
 
     private static void takesTheGreatestSum() {
-        SurplusMatch match = ofLengths(10, 5, 5, 5, 5);
+        SurplusMatch match = Check.ofLengths(10, 5, 5, 5, 5);
         match.worth(0, 0, 1);
         match.worth(0, 1, 7);
         match.worth(0, 3, 2);
         Check.is("two", match.several(0), 2);
         Check.used("greatest", match, 0, 1, 3);
-        SurplusMatch crossed = ofLengths(10, 7, 5, 5, 3);
+        SurplusMatch crossed = Check.ofLengths(10, 7, 5, 5, 3);
         crossed.worth(0, 0, 1);
         Check.is("two", crossed.several(0), 2);
         Check.used("the sum is ahead of the bits", crossed, 0, 0, 3);
     }
 
     private static void takesTheLowestBits() {
-        SurplusMatch match = ofLengths(10, 5, 5, 5);
+        SurplusMatch match = Check.ofLengths(10, 5, 5, 5);
         Check.is("two", match.several(0), 2);
         Check.used("0 and 1", match, 0, 0, 1);
-        SurplusMatch crossed = ofLengths(10, 7, 5, 5, 3);
+        SurplusMatch crossed = Check.ofLengths(10, 7, 5, 5, 3);
         Check.is("two", crossed.several(0), 2);
         Check.used("bits 0110 are lower than 1001", crossed, 0, 1, 2);
     }
 
     private static void takesFiveAtMost() {
-        SurplusMatch match = ofLengths(1000, 1, 1, 1, 1, 1, 1, 1);
+        SurplusMatch match = Check.ofLengths(1000, 1, 1, 1, 1, 1, 1, 1);
         match.worth(0, 6, 3);
         Check.is("five", match.several(0), 5);
         Check.used("five", match, 0, 0, 1, 2, 3, 6);
-        SurplusMatch five = ofLengths(5, 1, 1, 1, 1, 1);
+        SurplusMatch five = Check.ofLengths(5, 1, 1, 1, 1, 1);
         Check.is("just five", five.several(0), 5);
         Check.used("just five", five, 0, 0, 1, 2, 3, 4);
     }
@@ -95,7 +86,7 @@ public final class Promise11SeveralTest {
     }
 
     private static void leavesOutUsedAndReserved() {
-        SurplusMatch match = ofLengths(10, 3, 3, 3);
+        SurplusMatch match = Check.ofLengths(10, 3, 3, 3);
         match.piece(1, 5, 10, 0);
         match.piece(1, 5, 3, 0);
         match.reserve(1, 0, 4);
@@ -113,7 +104,7 @@ public final class Promise11SeveralTest {
     }
 
     private static void none() {
-        SurplusMatch match = ofLengths(5, 6);
+        SurplusMatch match = Check.ofLengths(5, 6);
         Check.is("none", match.several(0), 0);
         Check.is("none again: nothing was done", match.several(0), 0);
         Check.used("none", match, 0);

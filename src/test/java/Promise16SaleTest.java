@@ -8,39 +8,32 @@ public final class Promise16SaleTest {
         match.piece(1, 3, 1, 0);
         match.tick(5);
         match.piece(1, 4, 1, 0);
-        listed(match);
+        Check.forSale("listed", match);
         match.rules(0, 0, 7);
-        listed(match);
+        Check.forSale("listed", match);
         match.rules(0, 0, 6);
-        listed(match, 0, 1);
+        Check.forSale("listed", match, 0, 1);
         match.rules(0, 0, 5);
-        listed(match, 0, 1, 2);
+        Check.forSale("listed", match, 0, 1, 2);
         match.rules(0, 0, 0);
-        listed(match, 0, 1, 2, 3);
+        Check.forSale("listed", match, 0, 1, 2, 3);
         match.order(1, 2, 1, 0);
         match.reserve(1, 0, 7);
-        listed(match, 0, 2, 3);
+        Check.forSale("listed", match, 0, 2, 3);
         match.tick(1);
-        listed(match, 0, 2, 3);
+        Check.forSale("listed", match, 0, 2, 3);
         match.tick(1);
-        listed(match, 0, 1, 2, 3);
+        Check.forSale("listed", match, 0, 1, 2, 3);
         match.several(2);
-        listed(match, 0, 1, 3);
+        Check.forSale("listed", match, 0, 1, 3);
         match.undo(2);
         match.run();
-        listed(match, 0, 2, 3);
+        Check.forSale("listed", match, 0, 2, 3);
         match.rules(0, 0, 3);
-        listed(match, 0, 2);
+        Check.forSale("listed", match, 0, 2);
         Check.is("far", match.sale(Integer.MAX_VALUE), -1);
         Check.noIndex("-1", () -> match.sale(-1));
         Check.noIndex("far below", () -> match.sale(Integer.MIN_VALUE));
         Check.end();
-    }
-
-    private static void listed(SurplusMatch match, int... pieces) {
-        for (int i = 0; i < pieces.length; i++) {
-            Check.is("sale(" + i + ")", match.sale(i), pieces[i]);
-        }
-        Check.is("no more for sale", match.sale(pieces.length), -1);
     }
 }
