@@ -325,11 +325,17 @@ public final class EdgeRefusalsTest {
     }
 
     private static void tickBeyond() {
-        refused("1,000 from day 9,000", RANGE, () -> Scene.onDay(9000), match -> match.tick(1000));
-        refused("2 from day 9,998", RANGE, () -> Scene.onDay(9998), match -> match.tick(2));
-        refused("1 from day 9,999", RANGE, () -> Scene.onDay(9999), match -> match.tick(1));
+        refused("1,000 from day 9,000", RANGE, () -> reservedOnDay(9000), match -> match.tick(1000));
+        refused("2 from day 9,998", RANGE, () -> reservedOnDay(9998), match -> match.tick(2));
+        refused("1 from day 9,999", RANGE, () -> reservedOnDay(9999), match -> match.tick(1));
         for (int days : NO_DAYS) {
-            refused("both wrong, " + days, RANGE, () -> Scene.onDay(9999), match -> match.tick(days));
+            refused("both wrong, " + days, RANGE, () -> reservedOnDay(9999), match -> match.tick(days));
         }
+    }
+
+    private static SurplusMatch reservedOnDay(int day) {
+        SurplusMatch match = Scene.onDay(day);
+        match.reserve(0, 0, 9999);
+        return match;
     }
 }

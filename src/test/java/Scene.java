@@ -3,8 +3,6 @@ import java.util.function.IntUnaryOperator;
 
 /** Objects in the states that the tests of the edges need, and all that can be seen of an object. */
 final class Scene {
-    static final int LAST_DAY = 9999;
-
     private Scene() {
     }
 
