@@ -34,6 +34,8 @@ public final class LanguageTest {
         Check.sentence("rules 1, 2: classes inside are static, not public", () -> inside(classes));
         Check.sentence("rule 11: parameters and fields", () -> members(classes));
         Check.sentence("rule 5: static fields are final constants", () -> constants(classes));
+        Check.sentence("rule 12: only constructors and refusals make objects", () -> makings(code));
+        Check.sentence("rule 12: what is kept is small", () -> room());
         Check.end();
     }
 
@@ -76,6 +78,47 @@ public final class LanguageTest {
                 depthOfBody = -1;
             }
         }
+    }
+
+    /** A final field gets its object in the constructor, so no call makes what it keeps. */
+    private static void makings(String code) {
+        int made = 0;
+        Matcher making = Pattern.compile("(?m)^(.*)\\bnew\\b").matcher(code);
+        while (making.find()) {
+            String ahead = making.group(1).trim();
+            if (!ahead.equals("throw")) {
+                String field = "private final [\\w\\[\\]]+ " + ahead.replace(" =", "") + ";";
+                Check.is("a final field gets it: " + ahead, ahead.matches("\\w+ =") && count(field, code) > 0, true);
+                made++;
+            }
+        }
+        Check.is("there are some", made > 10, true);
+    }
+
+    /** The room of a run is for 7,300,000 fields and elements: 512 objects of 14,000 would find it. */
+    private static void room() {
+        SurplusMatch match = Scene.full();
+        match.run();
+        long kept = kept(match);
+        Check.is("fields and elements: " + kept, kept > 100 && kept <= 14_000, true);
+    }
+
+    private static long kept(Object object) {
+        if (object instanceof int[] numbers) {
+            return numbers.length;
+        }
+        long sum = 0;
+        try {
+            for (Field field : object.getClass().getDeclaredFields()) {
+                if (!Modifier.isStatic(field.getModifiers())) {
+                    field.setAccessible(true);
+                    sum += 1 + (field.getType().isPrimitive() ? 0 : kept(field.get(object)));
+                }
+            }
+        } catch (IllegalAccessException e) {
+            return -1;
+        }
+        return sum;
     }
 
     private static void collect(Class<?> type, List<Class<?>> into) {

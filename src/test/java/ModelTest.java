@@ -4,8 +4,12 @@ import java.util.function.IntSupplier;
 public final class ModelTest {
     private static final int RUNS = 4000;
 
-    /** So many, and the looks at the end, stay below the 512 calls that an object is used for. */
+    private static final int LAST_CALL = 512;
+
+    /** So many, and the looks behind them, stay below the last call that an object is used for. */
     private static final int CALLS = 300;
+    private static final int FIRST_SINGLE_KIND = 14;
+    private static final int SINGLE_KINDS = 16;
     private static final int[] ODD = {Integer.MIN_VALUE, -1, 10, 1000, 1001, 9999, 10_000, 1_000_001, Integer.MAX_VALUE};
 
     /** The most pieces and orders of a run: few enough for a model that tries everything. */
@@ -34,7 +38,7 @@ public final class ModelTest {
         for (int run = 0; run < RUNS; run++) {
             ModelTest test = new ModelTest(run);
             test.calls(run);
-            Check.is("calls within 512", test.calls <= 512, true);
+            Check.is("calls of run " + run, test.calls, LAST_CALL);
         }
         Check.end();
     }
@@ -53,7 +57,11 @@ public final class ModelTest {
             one(what, kind, a, b);
         }
         for (int k = 0; k < Math.max(mostPieces, mostOrders); k++) {
-            look("run " + run + ", at its end, " + k, k);
+            look("run " + run + ", looks, " + k, k);
+        }
+        while (calls < LAST_CALL) {
+            int kind = FIRST_SINGLE_KIND + next(SINGLE_KINDS);
+            one("run " + run + ", at its end, kind " + kind, kind, number(mostPieces), number(mostOrders));
         }
     }
 
